@@ -429,7 +429,7 @@ public final class NineCats {
         return i >= 0 && i < CELLS_MOST && (mask >>> i & 1) == 1;
     }
 
-    /** Every index goes through these four, so that none can be out of its row. */
+    /** Rows are used by these, so that no index can be out of its row. */
     private static int entry(int[] row, int i) {
         return i >= 0 && i < row.length ? row[i] : 0;
     }
@@ -709,7 +709,7 @@ public final class NineCats {
             return first == ';' ? STOP : WRONG;
         }
 
-        /** Two digits at most make a number, and one alone may be 0 at its head. */
+        /** More than two digits are above 99, or have a 0 ahead: both are faults. */
         private int numberHere() {
             int digits = end - start;
             if (token != DIGITS || digits > 2 || digits == 2 && byteAt(start) == '0') {

@@ -115,6 +115,12 @@ public final class BridgeTest {
         Due.fault("nos 1;", 0);
         Due.fault("sunn 1;", 0);
         Due.fault("nosesun 1;", 0);
+        Due.fault("nosez 1;", 0);
+        Due.fault("anose 1;", 0);
+        Due.fault("nose{ 1;", 4);
+        Due.fault("nose` 1;", 4);
+        Due.fault("nose /1;", 5);
+        Due.fault("nose 1:;", 6);
         Due.fault(" cat 1;", 1);
         Due.fault("7 nose;", 0);
         Due.fault("nose nose;", 5);
@@ -195,6 +201,7 @@ public final class BridgeTest {
         x.keep(1);
         x.enter(1);
         x.mark(0, 0);
+        x.drop(2);
         Due.is("one was over", x.now(5), 1);
         Due.is("it ate", x.cat(0, 3), 2);
         Due.is("bridge()", Due.bridge(x, "fisher 3;"), 1);
@@ -211,6 +218,9 @@ public final class BridgeTest {
         Due.is("back(0)", x.back(0), NineCats.STATE);
         Due.is("back(1)", x.back(1), NineCats.STATE);
         Due.is("trace()", x.trace(), 1);
+        Due.is("no cat where one was", x.drop(5), 1);
+        Due.is("a cat where none was", x.drop(3), NineCats.STATE);
+        Due.is("no fish where some lay", x.drop(2), 2);
         x.keep(0);
         Due.bridge(x, "cat");
         Due.is("an image stays where a fault is", x.back(0), 0);

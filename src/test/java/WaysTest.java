@@ -3,6 +3,7 @@ public final class WaysTest {
     public static void main(String[] args) {
         at();
         soonest();
+        atTheForty();
         steps();
         ways();
         bait();
@@ -64,6 +65,20 @@ public final class WaysTest {
         Due.is("he goes on", leaves.step(2), 0);
         Due.is("he is over", leaves.step(3), 0);
         Due.is("no more", leaves.step(4), -5);
+    }
+
+    /** A cat goes with the sun through row 0; he stands aside in 8, and it is by only in minute 38. */
+    private static void atTheForty() {
+        NineCats x = Due.told("bridge 5 2;sleeper 9;fisher 6;fisher 7;sunny 4;sunny 5;sun 6 9;");
+        Due.is("41 minutes are too many", x.soonest(), NineCats.NONE);
+        Due.is("step(0)", x.step(0), NineCats.NONE);
+        x.minutes(1);
+        Due.is("40 minutes", x.soonest(), 40);
+        Due.is("step(38)", x.step(38), 0);
+        Due.is("step(39)", x.step(39), 0);
+        Due.is("step(40)", x.step(40), -5);
+        x.minutes(1);
+        Due.is("39 minutes", x.soonest(), 39);
     }
 
     private static NineCats walkerInTheWay() {
