@@ -12,6 +12,13 @@ final class Due {
         }
     }
 
+    static void isText(String what, String got, String want) {
+        if (!got.equals(want)) {
+            wrong++;
+            System.out.println(what + " is\n  " + got + "\nand should be\n  " + want);
+        }
+    }
+
     static int wrong() {
         return wrong;
     }

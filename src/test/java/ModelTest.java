@@ -9,8 +9,8 @@ public final class ModelTest {
 
     public static void main(String[] args) {
         int scale = args.length > 0 ? Integer.parseInt(args[0]) : 1;
-        texts(3000 * scale);
-        for (int run = 0; run < 300 * scale; run++) {
+        texts(6000 * scale);
+        for (int run = 0; run < 1000 * scale; run++) {
             play(run);
         }
         Due.end();
