@@ -290,7 +290,10 @@ public final class BridgeEdgesTest {
         Due.is("back(1): IMAGES are gone", x.back(1), NineCats.STATE);
         Due.is("trace() stays", x.trace(), 100001);
         Due.is("keep(1) of what is read anew", x.keep(1), 0);
-        Due.is("back(1)", x.back(1), 0);
+        for (int c = 0; c < 10; c++) {
+            Due.is("drop(" + c + "), where a cat or fish may have been", x.drop(c), 1);
+            Due.is("back(1)", x.back(1), 0);
+        }
         Due.is("back(0)", x.back(0), NineCats.STATE);
     }
 

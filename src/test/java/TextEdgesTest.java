@@ -125,6 +125,10 @@ public final class TextEdgesTest {
         Due.type(x, "nose 4;");
         Due.is("what was cleared is not read", x.bridge(), 1);
         Due.is("now(2)", x.now(2), 4);
+        Due.type(x, "nose 47;");
+        x.clear();
+        Due.type(x, "nose 4");
+        Due.is("nor what lay behind it", x.bridge(), -16);
         Twins.unchanged("clear() of an empty text", NineCats::new, NineCats::clear, 0);
     }
 
