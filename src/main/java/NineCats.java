@@ -541,15 +541,22 @@ public final class NineCats {
         }
 
         int stepToColumn(int from, int column) {
-            return from + Integer.compare(column, columnOf(from));
+            return from + oneTowards(columnOf(from), column);
         }
 
         int stepTowards(int from, int to) {
             int column = columnOf(to);
             if (column != columnOf(from)) {
-                return from + Integer.compare(column, columnOf(from));
+                return from + oneTowards(columnOf(from), column);
             }
-            return from + length * Integer.compare(to, from);
+            return from + length * oneTowards(from, to);
+        }
+
+        private static int oneTowards(int from, int to) {
+            if (from == to) {
+                return 0;
+            }
+            return from < to ? 1 : -1;
         }
 
         /** The cell to which one comes by a move, NONE if it leads out of the bridge. */
